@@ -536,7 +536,10 @@ public final class ContentStore {
                 int from = place * PART_LENGTH;
                 Part part = place < standing.length ? standing[place] : null;
                 if (part == null || !areAlike(part.bytes, 0, bytes, from)) {
-                    part = foundOrMade(bytes, from);
+                    part = found(bytes, from);
+                }
+                if (part == null) {
+                    part = made(bytes, from);
                 }
                 part.holders++;
                 row[place] = part;
@@ -555,13 +558,10 @@ public final class ContentStore {
             }
         }
 
-        private Part foundOrMade(int[] bytes, int from) {
-            Part part = found(bytes, from);
-            if (part == null) {
-                part = new Part(bytes, from);
-                parts.add(part);
-                used += part.bytes.length;
-            }
+        private Part made(int[] bytes, int from) {
+            Part part = new Part(bytes, from);
+            parts.add(part);
+            used += part.bytes.length;
             return part;
         }
 

@@ -224,6 +224,9 @@ public final class PutsTest {
         Check.due("4: parts are gone", x.count(0), 0);
         Check.due("4: a shorter last part is another", Check.put(x, Check.row(24, 9)), -3);
         Check.due("4: the first in its place", Check.put(x, Check.row(32, 8)), 1);
+        int[] uneven = distinct(16, 30);
+        x.sweep();
+        Check.due("4: a part of unlike bytes twice", Check.put(x, Check.join(uneven, uneven)), 2);
         ContentStore y = new ContentStore(24);
         Check.due("4: a shorter last part has room", Check.put(y, Check.row(24, 9)), 0);
         Check.due("4: its parts", y.count(0), 2);
