@@ -4,15 +4,21 @@ import java.util.Arrays;
 final class Check {
     private static int asked = 0;
     private static int wrong = 0;
+    private static String sentence = "";
 
     private Check() {
+    }
+
+    /** From here on the answers are held against these words of a promise, or of the terms that it stands on. */
+    static void promise(int number, String words) {
+        sentence = "promise " + number + " (" + words + "): ";
     }
 
     static void due(String call, long got, long want) {
         asked++;
         if (got != want) {
             wrong++;
-            System.out.println(call + " answered " + got + ", due is " + want);
+            System.out.println(sentence + call + " answered " + got + ", due is " + want);
         }
     }
 
@@ -35,6 +41,15 @@ final class Check {
     static int[] row(int length, int value) {
         int[] bytes = new int[length];
         Arrays.fill(bytes, value);
+        return bytes;
+    }
+
+    /** A row of so many bytes, of which no two parts are alike, nor like those of a row with another mark (0 .. 255). */
+    static int[] unshared(int length, int mark) {
+        int[] bytes = new int[length];
+        for (int i = 0; i < length; i++) {
+            bytes[i] = i % 16 == 0 ? mark : 100 + i / 16;
+        }
         return bytes;
     }
 

@@ -35,7 +35,10 @@ public final class ModelTest {
 
     private void due(String name, long got, long want) {
         call++;
-        Check.due("run " + run + ", call " + call + ": " + name, got, want);
+        // A step may go on behind the last call that the document promises an answer to.
+        if (call <= CALLS) {
+            Check.due("run " + run + ", call " + call + ": " + name, got, want);
+        }
     }
 
     private void due(String name, boolean got, boolean want) {

@@ -30,20 +30,12 @@ public final class PutsTest {
     private static int filled(int room) {
         ContentStore x = new ContentStore(room);
         for (int blob = 0; blob < 25; blob++) {
-            Check.put(x, unshared(96, blob));
+            Check.put(x, Check.unshared(96, blob));
         }
         for (int length = 64; length > 0; length /= 2) {
-            Check.put(x, unshared(length, 100 + length));
+            Check.put(x, Check.unshared(length, 100 + length));
         }
         return x.count(1);
-    }
-
-    private static int[] unshared(int length, int mark) {
-        int[] bytes = new int[length];
-        for (int i = 0; i < length; i++) {
-            bytes[i] = i % 16 == 0 ? mark : i / 16;
-        }
-        return bytes;
     }
 
     private static void newObject() {
